@@ -136,7 +136,7 @@ public final class RecordMatcher {
         if (!areTwoRecords(j, k)) {
             return BAD;
         }
-        return ruleHoldsOf(j, k) ? 1 : 0;
+        return rule.holdsOf(entries[j], entries[k]) ? 1 : 0;
     }
 
     public int start(int workers) {
@@ -151,7 +151,7 @@ public final class RecordMatcher {
     }
 
     public int work(int worker) {
-        if (!run.isOpen()) {
+        if (rule == null || !run.isOpen()) {
             return NONE;
         }
         if (!run.hasWorker(worker)) {
@@ -163,7 +163,7 @@ public final class RecordMatcher {
         }
         int count = 0;
         for (int q = 0; q < task; q++) {
-            if (ruleHoldsOf(q, task)) {
+            if (rule.holdsOf(entries[q], entries[task])) {
                 run.note(q, task);
                 count++;
             }
@@ -256,10 +256,6 @@ public final class RecordMatcher {
         height++;
     }
 
-    private boolean ruleHoldsOf(int j, int k) {
-        return rule != null && rule.holdsOf(entries[j], entries[k]);
-    }
-
     /** Goes upwards and changes only to a better text, so the least record of equals stays. */
     private int bestOfCluster(int leader, int field) {
         int best = leader;
@@ -340,7 +336,7 @@ public final class RecordMatcher {
         int wordSetSize() {
             int count = 0;
             for (int i = 0; i < size; i++) {
-                if (isFirstOfItsWord(i)) {
+                if (beginsWord(i) && !hasWordBefore(i, this, i)) {
                     count++;
                 }
             }
@@ -350,16 +346,13 @@ public final class RecordMatcher {
         int countWordsSharedWith(Text other) {
             int count = 0;
             for (int i = 0; i < size; i++) {
-                if (isFirstOfItsWord(i) && other.hasWordBefore(other.size, this, i)) {
+                // A word that stands in this text again counts only where it stands first.
+                if (beginsWord(i) && !hasWordBefore(i, this, i)
+                        && other.hasWordBefore(other.size, this, i)) {
                     count++;
                 }
             }
             return count;
-        }
-
-        /** Whether a word begins at place i that did not stand further left already. */
-        private boolean isFirstOfItsWord(int i) {
-            return beginsWord(i) && !hasWordBefore(i, this, i);
         }
 
         /** Whether one of the words that begin before place end is the other's word at place j. */

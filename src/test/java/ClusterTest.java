@@ -178,6 +178,7 @@ public final class ClusterTest {
         // The normal texts are measured, not the typed ones.
         kept(0, 1, "a--------b", "abcd", "A  B");
         kept(0, 0, "AB", "a-", "ab");
+        kept(0, 1, "x", "abcdefghijkl", "ABCDEFGHIJKL", "abcdefghijkk");
         kept(0, 11, "a", "b", "c", "d", "e", "f", "g", "h", "i", "j", "k", "lm");
     }
 
@@ -199,6 +200,7 @@ public final class ClusterTest {
         kept(1, 1, "", "b", "", "a", "", "b", "a");
         kept(1, 1, "x", "a", "", "", "", "a", "ab", "a b", "abc");
         kept(1, 0, "a", "ab", "abc", "abcd");
+        kept(1, 1, "x", "abcdefghijkl", "ABCDEFGHIJKL", "abcdefghijkm");
         kept(1, 6, "a", "b", "c", "d", "e", "f", "g", "h", "i", "j", "k", "g");
     }
 
@@ -222,6 +224,7 @@ public final class ClusterTest {
         kept(2, 2, "aa", "ab", "a0");
         kept(2, 1, "b", "AZ", "azz");
         kept(2, 2, "abcdefghijkl", "abcdefghijkm", "abcdefghijkk");
+        kept(2, 1, "x", "abcdefghijkl", "ABCDEFGHIJKL", "abcdefghijkm");
         kept(2, 1, "10", "1", "2");
         kept(2, 11, "l", "k", "j", "i", "h", "g", "f", "e", "d", "c", "b", "a");
     }
