@@ -94,12 +94,10 @@ public final class RecordMatcher {
     }
 
     public boolean join(boolean all) {
-        if (height < 2) {
-            return false;
-        }
-        Expression lower = stack[height - 2];
-        Expression upper = stack[height - 1];
-        if (lower.comparisons + upper.comparisons > MOST_COMPARISONS) {
+        Expression lower = fromTop(1);
+        Expression upper = fromTop(0);
+        if (lower == null || upper == null
+                || lower.comparisons + upper.comparisons > MOST_COMPARISONS) {
             return false;
         }
         height -= 2;
@@ -108,10 +106,10 @@ public final class RecordMatcher {
     }
 
     public int accept() {
-        if (height != 1) {
+        Expression only = fromTop(0);
+        if (only == null || height > 1) {
             return BAD;
         }
-        Expression only = stack[0];
         if (!only.driven) {
             return UNDRIVEN;
         }
@@ -249,6 +247,11 @@ public final class RecordMatcher {
 
     private Text textOf(int entry, int field) {
         return entries[entry].text(field);
+    }
+
+    /** The expression with so many ones above it; null when the stack has none there. */
+    private Expression fromTop(int above) {
+        return above < height ? stack[height - 1 - above] : null;
     }
 
     private void push(Expression expression) {

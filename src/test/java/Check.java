@@ -3,8 +3,26 @@ final class Check {
     private static final int MOST_PRINTED = 50;
     private static int answers = 0;
     private static int wrong = 0;
+    private static String sentence = "";
+    private static int answersBefore = -1;
 
     private Check() {
+    }
+
+    /** Names the document's sentence that the next answers are of: a wrong one tells it then. */
+    static void sentence(String words) {
+        endSentence();
+        sentence = words;
+        answersBefore = answers;
+    }
+
+    /** A sentence of which nothing was asked would seem to hold. */
+    private static void endSentence() {
+        if (answersBefore == answers) {
+            due("answers of this sentence", 0, 1);
+        }
+        sentence = "";
+        answersBefore = -1;
     }
 
     static void due(String call, int got, int want) {
@@ -12,7 +30,8 @@ final class Check {
         if (got != want) {
             wrong++;
             if (wrong <= MOST_PRINTED) {
-                System.out.println(call + " answered " + got + ", due is " + want);
+                System.out.println((sentence.isEmpty() ? "" : "[" + sentence + "] ")
+                        + call + " answered " + got + ", due is " + want);
             }
         }
     }
@@ -23,6 +42,7 @@ final class Check {
 
     /** A test must have asked for something: a main method that checks nothing does not pass. */
     static void end() {
+        endSentence();
         System.out.println(answers + " answers, " + wrong + " not as due");
         if (wrong != 0 || answers == 0) {
             System.exit(1);
