@@ -311,7 +311,8 @@ public final class PromisesBoundsTest {
         for (int workers = 1; workers <= 4; workers++) {
             Talk.more(Talk.alike(12), "start " + workers,
                     Talk.each("work # = BAD", -1, workers, workers + 1, 4, 5, "MIN", "MAX"),
-                    "pairs = 0; work " + (workers - 1) + " = " + (workers - 1) + "; work 0 = " + (workers == 1 ? 1 : 0));
+                    "pairs = 0; work " + (workers - 1) + " = " + (workers - 1) + "; work 0 = "
+                    + (workers == 1 ? 1 : 0));
         }
         Talk.of("Promise 15: 'IDLE when all its tasks are done'", Talk.alike(3), """
                 start 2; work 0 = 0; work 0 = 2; work 0 = IDLE; work 0 = IDLE; work 1 = 1; work 1 = IDLE
@@ -405,6 +406,7 @@ public final class PromisesBoundsTest {
         Talk.of("Promise 19: 'BUSY when the run is not done'", Talk.alike(2), """
                 start 1; cluster 0 = BUSY; work 0; cluster 0 = BUSY; cluster 1 = BUSY; work 0; cluster 1 = 0
                 start 2; work 1; cluster 0 = BUSY; work 0; cluster 1 = 0; start 2; cluster 0 = BUSY
+                start 2; work 0; cluster 0 = BUSY; cluster 1 = BUSY; work 1; cluster 1 = 0
                 """);
     }
 
@@ -454,6 +456,7 @@ public final class PromisesBoundsTest {
         Talk.of("Promise 21: 'BUSY when the run is not done'", Talk.alike(2), """
                 start 1; kept 0 0 = BUSY; work 0; kept 0 0 = BUSY; kept 1 1 = BUSY; work 0; kept 1 0 = 0
                 start 2; work 1; kept 0 0 = BUSY; work 0; kept 1 1 = 0; start 2; kept 0 0 = BUSY
+                start 2; work 0; kept 0 0 = BUSY; kept 1 1 = BUSY; work 1; kept 1 1 = 0
                 """);
     }
 }

@@ -31,7 +31,8 @@ public final class RefusalOrderTest {
     }
 
     private static void accept() {
-        Talk.of("Promise 11: BAD (more than one) before UNDRIVEN", "2x edit 0 0; accept = BAD; discard; accept = UNDRIVEN");
+        Talk.of("Promise 11: BAD (more than one) before UNDRIVEN",
+                "2x edit 0 0; accept = BAD; discard; accept = UNDRIVEN");
         Talk.more("edit 0 0; jaccard 0 1 1; accept = BAD");
         Talk.more("jaccard 0 1 1; edit 0 0; accept = BAD; discard; accept = 1");
         Talk.more("6x edit 0 0; accept = BAD; 5x discard; accept = UNDRIVEN");
@@ -43,16 +44,19 @@ public final class RefusalOrderTest {
                 Talk.each("similar 0 # = NONE; similar # 0 = NONE; similar # # = NONE", NO_RECORDS_OF_THREE),
                 "jaccard 0 1 1; accept",
                 Talk.each("similar 0 # = BAD; similar # 0 = BAD; similar # # = BAD", NO_RECORDS_OF_THREE));
-        Talk.more("similar 0 1 = NONE; similar 0 0 = NONE; jaccard 0 1 1; accept; similar 0 1 = BAD; similar 0 0 = BAD");
+        Talk.more("similar 0 1 = NONE; similar 0 0 = NONE; jaccard 0 1 1; accept",
+                "similar 0 1 = BAD; similar 0 0 = BAD");
         Talk.of("Promise 13: NONE (no rule) before BAD (both are the same)", Talk.records("a", "a", "a"),
-                Talk.each("similar # # = NONE", 0, 1, 2), "jaccard 0 1 1; accept", Talk.each("similar # # = BAD", 0, 1, 2));
+                Talk.each("similar # # = NONE", 0, 1, 2), "jaccard 0 1 1; accept",
+                Talk.each("similar # # = BAD", 0, 1, 2));
     }
 
     private static void start() {
         Object[] noNumbers = {"0", "5", "-1", "MIN", "MAX"};
         Talk.of("Promise 14: NONE (no rule) before BAD (workers)", Talk.each("start # = NONE", noNumbers),
                 Talk.records("a"), Talk.each("start # = NONE", noNumbers), "edit 0 0; accept = UNDRIVEN",
-                Talk.each("start # = NONE", noNumbers), "discard; jaccard 0 1 1", Talk.each("start # = NONE", noNumbers),
+                Talk.each("start # = NONE", noNumbers), "discard; jaccard 0 1 1",
+                Talk.each("start # = NONE", noNumbers),
                 "accept", Talk.each("start # = BAD", noNumbers));
     }
 

@@ -18,7 +18,18 @@ public final class RefusedCallsTest {
     /** Seven comparisons and six, which no join may bring together. */
     private static final String SEVEN_AND_SIX = "jaccard 0 1 3; " + "edit 1 3; join true; ".repeat(6)
             + "jaccard 1 1 3; " + "edit 0 4; join true; ".repeat(5) + "\n";
-    private static final String FULL_STACK = "jaccard 0 1 1; edit 0 3; jaccard 1 1 3; edit 1 8; jaccard 0 1 3; edit 0 6\n";
+    /** Eight records and six expressions: each holds of fewer of them than all those below it. */
+    private static final String STEPS = Talk.records("a b c d e f", "a b c d e", "a b c d", "a b c", "a b", "a",
+            "a b c d e f", "b a c d e f");
+    private static final String FULL_STACK =
+            "jaccard 0 15 100; edit 0 8; jaccard 0 34 100; edit 0 4; jaccard 0 67 100; edit 0 1\n";
+
+    private static final String BUSY_RUN = FOUR + RULE + DRAFT + "start 2; work 0; work 1; work 1\n";
+    private static final String STACK_RUN = STEPS + RULE + DRAFT + "start 2; 3x work 0; work 1\n" + FULL_STACK;
+    private static final String DONE_RUN = BUSY_RUN + "work 0; keep 0 1; keep 1 2\n";
+    private static final String FULL_BUSY = FOUR + EIGHT_MORE + RULE + FULL_DRAFT
+            + "start 3; 2x work 1; 3x work 2; keep 0 2\n";
+    private static final String FULL_DONE = FOUR + EIGHT_MORE + RULE + FULL_DRAFT + "start 1; 12x work 0; keep 1 1\n";
 
     /** Each looks at a part of the state, some by calls that change it: hence one at a time. */
     private static final String[] PROBES = {
@@ -38,9 +49,9 @@ public final class RefusedCallsTest {
         stackAsked(0, true), stackAsked(0, false), stackAsked(1, true), stackAsked(1, false),
         stackAsked(2, true), stackAsked(2, false), stackAsked(3, true), stackAsked(3, false),
         stackAsked(4, true), stackAsked(5, true), stackAsked(6, true),
-        "accept; " + pairsOfFour("similar"),
+        "accept; " + pairsAsked("similar", 8),
         "7x jaccard 0 1 1; 7x discard",
-        "join true; discard; accept; " + pairsOfFour("similar")};
+        "join true; discard; accept; " + pairsAsked("similar", 8)};
 
     private static String unitsOf(int record) {
         StringBuilder rows = new StringBuilder();
@@ -74,10 +85,6 @@ public final class RefusedCallsTest {
         return pairsAsked(call, 12);
     }
 
-    private static String pairsOfFour(String call) {
-        return pairsAsked(call, 4);
-    }
-
     private static String clustersAsked() {
         StringBuilder rows = new StringBuilder();
         for (int r = 0; r < 12; r++) {
@@ -95,9 +102,10 @@ public final class RefusedCallsTest {
     }
 
     private static String stackAsked(int discards, boolean all) {
-        // A JACCARD on top makes an AND of all that is left a rule, whatever that is.
+        String asked = "accept; " + pairsAsked("similar", 8);
+        // What is left may not be driven: with a JACCARD above it, it is.
         return "discard; ".repeat(discards) + ("join " + all + "; ").repeat(6)
-                + "accept; jaccard 0 1 100; join true; accept; " + pairsOfFour("similar") + "discard; discard";
+                + asked + "jaccard 0 1 100; join true; " + asked + "discard; discard";
     }
 
     private static List<Integer> answersOf(String state, String call, String probe) {
@@ -113,19 +121,15 @@ public final class RefusedCallsTest {
     private static void refused(String sentence, String state, String... rows) {
         Check.sentence(sentence + " changes nothing");
         for (String row : String.join("\n", rows).split("\n+")) {
+            Talk.more(state, row);
+            String call = row.substring(0, row.indexOf(" = "));
             for (int i = 0; i < PROBES.length; i++) {
                 List<Integer> want = answersOf(state, "", PROBES[i]);
-                List<Integer> got = answersOf(state, row, PROBES[i]);
-                Check.due("probe " + i + " after " + row, want.equals(got), true);
+                List<Integer> got = answersOf(state, call, PROBES[i]);
+                Check.due("probe " + i + " after " + call, got.equals(want), true);
             }
         }
     }
-
-    private static final String BUSY_RUN = FOUR + RULE + DRAFT + "start 2; work 0; work 1; work 1\n";
-    private static final String DONE_RUN = BUSY_RUN + "work 0; keep 0 1; keep 1 2\n";
-    private static final String FULL_BUSY = FOUR + EIGHT_MORE + RULE + FULL_DRAFT
-            + "start 3; 2x work 1; 3x work 2; keep 0 2\n";
-    private static final String FULL_DONE = FOUR + EIGHT_MORE + RULE + FULL_DRAFT + "start 1; 12x work 0; keep 1 1\n";
 
     public static void main(String[] args) {
         probesSeeEveryChange();
@@ -150,9 +154,10 @@ public final class RefusedCallsTest {
     private static void probesSeeEveryChange() {
         Check.sentence("The probes see a change");
         seen(FOUR, "type 0 'a'", "type 0 ' '", "type 1 'a'", "type 1 ' '", "add");
-        seen(BUSY_RUN + FULL_STACK, "type 0 'a'", "type 0 ' '", "type 1 'a'", "type 1 ' '", "add", "discard", "join true",
-                "join false", "start 2", "start 3", "work 0", "crash 0", "crash 1", "keep 0 1", "keep 0 2", "keep 1 1",
-                "keep 1 2");
+        seen(STACK_RUN, "type 0 'a'", "add", "discard", "join true", "join false", "start 2", "work 1", "crash 0");
+        seen(BUSY_RUN + FULL_STACK, "type 0 'a'", "type 0 ' '", "type 1 'a'", "type 1 ' '", "add", "discard",
+                "join true", "join false", "start 2", "start 3", "work 0", "crash 0", "crash 1", "keep 0 1",
+                "keep 0 2", "keep 1 1", "keep 1 2");
         seen(DONE_RUN + SEVEN_AND_SIX, "type 0 'a'", "type 1 ' '", "add", "discard", "edit 0 0", "edit 1 8",
                 "jaccard 0 1 1", "start 1", "keep 0 0", "keep 0 2", "keep 1 0", "keep 1 1");
         seen(DONE_RUN + "jaccard 0 1 1", "accept", "discard", "edit 0 8", "jaccard 1 1 1");
@@ -198,14 +203,15 @@ public final class RefusedCallsTest {
                 + "edit 0 -1 = false\nedit 1 9 = false\nedit 0 MIN = false\nedit 0 MAX = false";
         refused("Promises 8 and 9: a wrong JACCARD or EDIT", DONE_RUN + "jaccard 1 1 3; edit 0 1", wrong);
         refused("Promises 8 and 9: a wrong JACCARD or EDIT of an empty stack", BUSY_RUN, wrong);
-        refused("Promises 8 and 9: a seventh expression", BUSY_RUN + FULL_STACK,
+        refused("Promises 8 and 9: a seventh expression", STACK_RUN,
                 "jaccard 0 1 1 = false\njaccard 1 1 2 = false\nedit 0 0 = false\nedit 1 8 = false");
     }
 
     private static void join() {
         refused("Promise 10: join of none", DONE_RUN, "join true = false\njoin false = false");
         refused("Promise 10: join of one", BUSY_RUN + "jaccard 1 1 3", "join true = false\njoin false = false");
-        refused("Promise 10: join to more than 12", DONE_RUN + SEVEN_AND_SIX, "join true = false\njoin false = false");
+        refused("Promise 10: join to more than 12", DONE_RUN + SEVEN_AND_SIX,
+                "join true = false\njoin false = false");
         refused("Promise 10: join to more than 12 above another one", BUSY_RUN + "edit 1 2;" + SEVEN_AND_SIX,
                 "join true = false\njoin false = false");
     }
@@ -213,7 +219,7 @@ public final class RefusedCallsTest {
     private static void accept() {
         refused("Promise 11: accept of none", DONE_RUN, "accept = BAD");
         refused("Promise 11: accept of more than one", DONE_RUN + "jaccard 1 1 3; jaccard 0 1 1", "accept = BAD");
-        refused("Promise 11: accept of six", BUSY_RUN + FULL_STACK, "accept = BAD");
+        refused("Promise 11: accept of six", STACK_RUN, "accept = BAD");
         refused("Promise 11: accept of what is not driven", BUSY_RUN + "edit 0 8", "accept = UNDRIVEN");
         refused("Promise 11: accept of what is not driven, of a done run", DONE_RUN
                 + "jaccard 0 1 1; edit 1 0; join false", "accept = UNDRIVEN");
@@ -226,7 +232,8 @@ public final class RefusedCallsTest {
     }
 
     private static void similar() {
-        String rows = Talk.each("similar 0 # = BAD\nsimilar # 0 = BAD", "-1", "4", "12", "MIN", "MAX") + "similar 1 1 = BAD";
+        String rows = Talk.each("similar 0 # = BAD\nsimilar # 0 = BAD", "-1", "4", "12", "MIN", "MAX")
+                + "similar 1 1 = BAD";
         refused("Promise 13: similar without a rule", FOUR + DRAFT + "jaccard 0 1 1",
                 "similar 0 1 = NONE\nsimilar 0 0 = NONE\nsimilar 0 9 = NONE");
         refused("Promise 13: similar of what is not there", BUSY_RUN + FULL_STACK, rows);
@@ -234,7 +241,8 @@ public final class RefusedCallsTest {
 
     private static void start() {
         String rows = Talk.each("start # = BAD", "0", "5", "-1", "MIN", "MAX");
-        refused("Promise 14: start without a rule", FOUR + DRAFT + "edit 0 0", "start 1 = NONE\nstart 4 = NONE\nstart 0 = NONE");
+        refused("Promise 14: start without a rule", FOUR + DRAFT + "edit 0 0",
+                "start 1 = NONE\nstart 4 = NONE\nstart 0 = NONE");
         refused("Promise 14: start of a wrong number, without a run", FOUR + RULE + DRAFT, rows);
         refused("Promise 14: start of a wrong number, while a run goes on", BUSY_RUN, rows);
         refused("Promise 14: start of a wrong number, of a done run", FULL_DONE, rows);
@@ -245,8 +253,10 @@ public final class RefusedCallsTest {
         refused("Promise 15: work of no worker", BUSY_RUN, Talk.each("work # = BAD", "-1", "2", "4", "MIN", "MAX"));
         refused("Promise 15: work of a worker whose tasks are done", BUSY_RUN, "work 1 = IDLE\n2x work 1 = IDLE");
         refused("Promise 15: work of a done run", DONE_RUN, "work 0 = IDLE\nwork 1 = IDLE\nwork 2 = BAD");
-        refused("Promise 15: work of a worker without tasks", Talk.alike(2) + "start 4; work 1", "work 2 = IDLE\nwork 3 = IDLE");
-        refused("Promise 15: work of a run without tasks", Talk.alike(0) + "start 2", "work 0 = IDLE\nwork 1 = IDLE\nwork 2 = BAD");
+        refused("Promise 15: work of a worker without tasks", Talk.alike(2) + "start 4; work 1",
+                "work 2 = IDLE\nwork 3 = IDLE");
+        refused("Promise 15: work of a run without tasks", Talk.alike(0) + "start 2",
+                "work 0 = IDLE\nwork 1 = IDLE\nwork 2 = BAD");
     }
 
     private static void crash() {
@@ -254,12 +264,14 @@ public final class RefusedCallsTest {
         refused("Promise 16: crash of no worker", BUSY_RUN, Talk.each("crash # = BAD", "-1", "2", "4", "MIN", "MAX"));
         refused("Promise 16: crash of a done run", DONE_RUN, "crash 0 = IDLE\ncrash 1 = IDLE\ncrash 2 = BAD");
         refused("Promise 16: crash of a done run of a full object", FULL_DONE, "crash 0 = IDLE\ncrash 1 = BAD");
-        refused("Promise 16: crash of a run without tasks", Talk.alike(0) + "start 2", "crash 0 = IDLE\ncrash 1 = IDLE\ncrash 2 = BAD");
+        refused("Promise 16: crash of a run without tasks", Talk.alike(0) + "start 2",
+                "crash 0 = IDLE\ncrash 1 = IDLE\ncrash 2 = BAD");
     }
 
     private static void lookingAtRuns() {
         refused("Promise 17: pairs without a run", FOUR + RULE + DRAFT, "pairs = NONE");
-        refused("Promise 18: found without a run", FOUR + RULE + DRAFT, "found 0 1 = NONE\nfound 0 0 = NONE\nfound -1 9 = NONE");
+        refused("Promise 18: found without a run", FOUR + RULE + DRAFT,
+                "found 0 1 = NONE\nfound 0 0 = NONE\nfound -1 9 = NONE");
         refused("Promise 18: found of what is not there", BUSY_RUN,
                 Talk.each("found 0 # = BAD\nfound # 0 = BAD", "-1", "4", "12", "MIN", "MAX"), "found 1 1 = BAD");
     }

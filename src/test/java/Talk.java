@@ -1,3 +1,4 @@
+import java.lang.reflect.InvocationTargetException;
 import java.lang.reflect.Method;
 import java.lang.reflect.Modifier;
 import java.util.ArrayList;
@@ -22,6 +23,8 @@ import java.util.regex.Pattern;
  */
 final class Talk {
     static final int MOST_CALLS = 512;
+
+    private static final int THREW = Integer.MIN_VALUE;
 
     private static final Pattern PART = Pattern.compile("'[^']*'|\\S+");
     private static final Map<String, Integer> NAMED = Map.of("BAD", -1, "FULL", -2, "UNDRIVEN", -3,
@@ -139,10 +142,10 @@ final class Talk {
             arguments[i] = types[i] == char.class ? (Object) (char) number
                     : types[i] == boolean.class ? (Object) (number != 0) : (Object) number;
         }
-        Object answer = answerOf(method, arguments);
+        String place = "call " + (answers.size() + 1) + ", " + call;
+        Object answer = answerOf(place, method, arguments);
         int got = answer instanceof Boolean truth ? (truth ? 1 : 0) : (Integer) answer;
         answers.add(got);
-        String place = "call " + answers.size() + ", " + call;
         if (want != null) {
             Check.due(place, got, want);
         } else if (!mayBeRefused && (answer instanceof Boolean ? got == 0 : got < 0)) {
@@ -153,11 +156,15 @@ final class Talk {
         }
     }
 
-    private Object answerOf(Method method, Object[] arguments) {
+    private Object answerOf(String place, Method method, Object[] arguments) {
         try {
             return method.invoke(object, arguments);
-        } catch (ReflectiveOperationException e) {
-            throw new IllegalStateException(method.getName() + " threw", e);
+        } catch (InvocationTargetException e) {
+            // No call ever throws, so this is a wrong answer, and the calls behind it are asked too.
+            Check.due(place + " threw " + e.getCause() + ":", 1, 0);
+            return THREW;
+        } catch (IllegalAccessException e) {
+            throw new IllegalStateException(e);
         }
     }
 

@@ -253,6 +253,13 @@ public final class TermsBoundsTest {
         jaccard("a b c d e f", "f g h i j k", 9);
         jaccard("ab", "a b", 0);
         jaccard("ab abc", "abc a", 33);
+        // Words that fill a text, or end where it does.
+        jaccard("abcdefghijkl", "ABCDEFGHIJKL", 100);
+        jaccard("abcdefghijkl", "abcdefghijkm", 0);
+        jaccard("abcdefghijkl", "abcdefghijk", 0);
+        jaccard("stuvwxy abcd", "abcd", 50);
+        jaccard("stuvwxy abcd", "abcde", 0);
+        jaccard("stuvwxy abcd", "abc", 0);
         Talk.more(Talk.records("a b", "b c"), """
                 jaccard 0 1 3; accept; similar 0 1 = 1; jaccard 0 33 99; accept; similar 0 1 = 1
                 jaccard 0 1 2; accept; similar 0 1 = 0; jaccard 0 34 99; accept; similar 0 1 = 0
@@ -420,6 +427,11 @@ public final class TermsBoundsTest {
                 work 0 = 2; pairs = 4; found 0 4 = 1; found 2 4 = 1; found 1 4 = 0; found 3 4 = 0
                 work 1 = 0; pairs = 4; found 0 1 = 0
                 """);
+        Talk.more(Talk.alike(4), """
+                start 4; work 3 = 3; pairs = 3; found 0 3 = 1; found 1 3 = 1; found 2 3 = 1; found 1 2 = 0
+                work 0 = 0; pairs = 3; work 1 = 1; pairs = 4; found 0 1 = 1; found 1 2 = 0
+                work 2 = 2; pairs = 6; found 0 2 = 1; found 1 2 = 1
+                """);
     }
 
     private static void done() {
@@ -431,8 +443,24 @@ public final class TermsBoundsTest {
                 start 4; work 2; work 1; cluster 2 = BUSY; work 3 = IDLE; cluster 2 = BUSY; work 0; cluster 2 = 0
                 start 1; 2x work 0; cluster 2 = BUSY; work 0; cluster 2 = 0
                 """);
+        for (int workers = 2; workers <= 4; workers++) {
+            for (int last = 0; last < workers; last++) {
+                doneByLastWorker(workers, last);
+            }
+        }
         Talk.more(Talk.alike(0), "start 1 = 0; crash 0 = IDLE; start 4 = 0; crash 0 = IDLE; crash 3 = IDLE");
         Talk.more(Talk.alike(1), "start 4 = 1; crash 0 = 0; cluster 0 = BUSY; work 0 = 0; cluster 0 = 0");
+    }
+
+    /** Of twelve tasks all but those of one worker are done first: the run waits for its last one. */
+    private static void doneByLastWorker(int workers, int last) {
+        int each = 12 / workers;
+        StringBuilder rows = new StringBuilder("start " + workers + "\n");
+        for (int w = 0; w < workers; w++) {
+            rows.append(w == last ? "" : each + "x work " + w + "; cluster 0 = BUSY\n");
+        }
+        rows.append(each - 1 + "x work " + last + "; cluster 0 = BUSY; work " + last + "; cluster 0 = 0");
+        Talk.more(Talk.alike(12), rows.toString());
     }
 
     private static String clustersAre(int... wanted) {
