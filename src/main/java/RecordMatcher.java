@@ -518,8 +518,11 @@ public final class RecordMatcher {
         void begin(int workers, int tasks) {
             this.workers = workers;
             this.tasks = tasks;
-            for (int w = 0; w < workers; w++) {
-                undoTasks(w);
+            for (int w = 0; w < done.length; w++) {
+                done[w] = 0;
+            }
+            for (int i = 0; i < noted.length; i++) {
+                noted[i] = false;
             }
         }
 
@@ -545,7 +548,12 @@ public final class RecordMatcher {
 
         /** Not less than the number of tasks when the worker has no more of them. */
         int nextTask(int worker) {
-            return worker + done[worker] * workers;
+            return taskOf(worker, done[worker]);
+        }
+
+        /** A worker's task before which it has so many other ones to do. */
+        private int taskOf(int worker, int before) {
+            return worker + before * workers;
         }
 
         void finishTask(int worker) {
@@ -553,10 +561,10 @@ public final class RecordMatcher {
         }
 
         int undoTasks(int worker) {
-            for (int r = worker; r < tasks; r += workers) {
-                forgetPairsOf(r);
-            }
             int undone = done[worker];
+            for (int n = 0; n < undone; n++) {
+                forgetPairsOf(taskOf(worker, n));
+            }
             done[worker] = 0;
             return undone;
         }

@@ -69,7 +69,7 @@ public final class FaceTest {
         Check.due("methods " + seen, seen.equals(METHODS), true);
     }
 
-    private static String written(Method method) {
+    static String written(Method method) {
         StringBuilder parameters = new StringBuilder();
         for (Class<?> type : method.getParameterTypes()) {
             parameters.append(parameters.length() == 0 ? "" : ", ").append(type.getName());
